@@ -25,7 +25,7 @@ public final class SlipSearch {
 
     private static final int FLOAT_BIAS = 127;
     private static final int FLOAT_SHIFT = 23;
-    private static final float FLOAT_UNITS = 8388608f;
+    private static final int FLOAT_UNITS = 1 << FLOAT_SHIFT;
 
     private final State now;
     private final State snapshot;
@@ -377,7 +377,9 @@ public final class SlipSearch {
         void copyFrom(State other) {
             System.arraycopy(other.text, 0, text, 0, MOST_CHARACTERS);
             length = other.length;
-            System.arraycopy(other.patterns, 0, patterns, 0, MOST_PATTERNS);
+            for (int number = 0; number < MOST_PATTERNS; number++) {
+                patterns[number] = other.patterns[number];
+            }
             patternCount = other.patternCount;
             mostSlips = other.mostSlips;
         }
