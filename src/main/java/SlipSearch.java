@@ -696,7 +696,7 @@ public final class SlipSearch {
             int lastEnd = 0;
             for (int rank = 0; rank < listed; rank++) {
                 int place = tell(rank, 0);
-                if (tell(rank, 2) >= lastEnd) {
+                if (tell(rank, 2) >= lastEnd && alone <= MOST_CHARACTERS) {
                     ends[alone] = place;
                     alone++;
                     lastEnd = place;
