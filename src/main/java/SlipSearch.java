@@ -449,8 +449,9 @@ public final class SlipSearch {
             if (count >= HISTORY_ROOM) {
                 dropOldest();
             }
-            if (count >= 0 && count < HISTORY_ROOM) {
-                states[count].copyFrom(state);
+            State room = stateOrNull(count);
+            if (room != null) {
+                room.copyFrom(state);
                 count++;
             }
         }
@@ -465,10 +466,15 @@ public final class SlipSearch {
         }
 
         void takeLatestInto(State state) {
-            if (count >= 1 && count <= HISTORY_ROOM) {
+            State latest = stateOrNull(count - 1);
+            if (latest != null) {
+                state.copyFrom(latest);
                 count--;
-                state.copyFrom(states[count]);
             }
+        }
+
+        private State stateOrNull(int index) {
+            return index >= 0 && index < HISTORY_ROOM ? states[index] : null;
         }
     }
 
