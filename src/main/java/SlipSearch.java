@@ -283,8 +283,7 @@ public final class SlipSearch {
         if (asked == null) {
             return -1.0;
         }
-        search.findEnds(now, asked);
-        return search.sumOfShares() / (now.length + 1);
+        return densityOf(asked);
     }
 
     public int densityBits(int pattern) {
@@ -292,8 +291,7 @@ public final class SlipSearch {
         if (asked == null) {
             return UNKNOWN;
         }
-        search.findEnds(now, asked);
-        return bitsOfFloat((float) (search.sumOfShares() / (now.length + 1)));
+        return bitsOfFloat((float) densityOf(asked));
     }
 
     public int count(int what) {
@@ -317,6 +315,12 @@ public final class SlipSearch {
             default:
                 return BAD_VALUE;
         }
+    }
+
+    private double densityOf(Pattern asked) {
+        search.findEnds(now, asked);
+        int places = now.length + 1;
+        return places > 0 ? search.sumOfShares() / places : 0.0;
     }
 
     private int countAllEnds() {

@@ -742,6 +742,24 @@ public final class EdgeTests {
     Check.dueEnds(x, 0, false, Check.end(0, 2, 0), Check.end(1, 2, 1), Check.end(2, 1, 1), Check.end(3, 0, 1));
   }
 
+  @Check.Sentence("17: 2 for its beginning: whatever was asked before")
+  static void p17BeginningsAskedFirst() {
+    for (boolean alone : new boolean[] {false, true}) {
+      SlipSearch x = Check.searched("zzzab", 0, "ab");
+      Check.due("end(0, 0, " + alone + ", 2)", x.end(0, 0, alone, 2), 3);
+      x.cut(3);
+      x.writePad();
+      Check.dueText(x, "zzab");
+      Check.due("end(0, 0, " + alone + ", 2) after a change", x.end(0, 0, alone, 2), 2);
+      x.undo();
+      x.undo();
+      Check.due("end(0, 0, " + alone + ", 2) after undo()", x.end(0, 0, alone, 2), 3);
+      Check.due("addPattern()", Check.add(x, "b"), 1);
+      Check.due("end(1, 0, " + alone + ", 2)", x.end(1, 0, alone, 2), 4);
+      Check.due("end(0, 0, " + alone + ", 2)", x.end(0, 0, alone, 2), 3);
+    }
+  }
+
   @Check.Sentence("17: whether only ends that stand alone are told")
   static void p17EndsAlone() {
     SlipSearch x = Check.searched("zab", 2, "ab");
@@ -1068,6 +1086,18 @@ public final class EdgeTests {
     Check.due("count(4) of a full text without slips", most.count(4), 120);
     most.cut(119);
     Check.due("count(4) after a cut", most.count(4), 1);
+  }
+
+  @Check.Sentence("22: of all patterns; any pattern: the first and the last of 6 too")
+  static void p22EachOf6Patterns() {
+    for (int removed = 0; removed < 6; removed++) {
+      SlipSearch x = Check.searched("abcdef", 0, "a", "b", "c", "d", "e", "f");
+      Check.due("count(3)", x.count(3), 6);
+      Check.due("count(4)", x.count(4), 6);
+      x.removePattern(removed);
+      Check.due("count(3) without " + removed, x.count(3), 5);
+      Check.due("count(4) without " + removed, x.count(4), 5);
+    }
   }
 
   @Check.Sentence("22: 5 for blanks in the text")

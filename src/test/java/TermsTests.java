@@ -238,6 +238,10 @@ public final class TermsTests {
     SlipSearch bound = Check.searched("aa b", 3, "^ab");
     Check.dueEnds(bound, 0, false, Check.end(0, 2, 0), Check.end(1, 1, 0), Check.end(2, 1, 0), Check.end(3, 2, 3),
         Check.end(4, 1, 3));
+    // Ahead of the text there is nothing that a place could take.
+    Check.dueEnds(Check.searched("bxa", 2, "_ba"), 0, false, Check.end(1, 2, 0), Check.end(2, 2, 0), Check.end(3, 2, 2));
+    // The part that begins behind the blank needs 3 slips.
+    Check.dueEnds(Check.searched("ba ", 2, "^a_a"), 0, false, Check.end(2, 2, 0), Check.end(3, 2, 0));
   }
 
   @Check.Sentence("Ends that stand alone are chosen from the left on: the first end, and then each time the next end whose beginning is not ahead of the end that was chosen before")
