@@ -157,7 +157,17 @@ final class Check {
 
   /** A new object with a text, the most slips, and patterns. */
   static SlipSearch searched(String text, int slips, String... patterns) {
+    return search(text(text), slips, patterns);
+  }
+
+  /** The same, with a snapshot of the text alone. */
+  static SlipSearch kept(String text, int slips, String... patterns) {
     SlipSearch x = text(text);
+    x.keep();
+    return search(x, slips, patterns);
+  }
+
+  private static SlipSearch search(SlipSearch x, int slips, String... patterns) {
     x.setSlips(slips);
     for (String each : patterns) due("addPattern() of " + each, add(x, each), x.count(1) - 1);
     return x;
@@ -180,7 +190,7 @@ final class Check {
     SlipSearch x = searched("ab".repeat(length / 2) + "b".repeat(length % 2), 0, "^a.", "b");
     x.cut(1);
     x.keep();
-    x.setSlips(3);
+    x.setSlips(4);
     x.write('c');
     x.removePattern(0);
     type(x, "xy_z");

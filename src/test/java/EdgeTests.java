@@ -17,7 +17,7 @@ public final class EdgeTests {
   }
 
   private static SlipSearch sixPatterns(String pad) {
-    SlipSearch x = Check.searched("ab ba", 2, "a", "^bb", "c.c", "[ab]___", "[-ab]bbbb", "^______");
+    SlipSearch x = Check.kept("ab ba", 2, "a", "^bb", "c.c", "[ab]___", "[-ab]bbbb", "^______");
     Check.type(x, pad);
     return x;
   }
@@ -261,10 +261,10 @@ public final class EdgeTests {
 
   @Check.Sentence("5: NONE if there is no end")
   static void p05ReplaceWithoutEnds() {
-    Check.refused("replace", () -> Check.searched("abab", 0, "aa"), y -> y.replace(0, 'a'), NONE);
-    Check.refused("replace", () -> Check.searched("", 0, "a"), y -> y.replace(0, 'a'), NONE);
-    Check.refused("replace", () -> Check.searched("", 4, "aaaaa"), y -> y.replace(0, 'a'), NONE);
-    Check.refused("replace", () -> Check.searched("a".repeat(120), 0, "b"), y -> y.replace(0, 'a'), NONE);
+    Check.refused("replace", () -> Check.kept("abab", 0, "aa"), y -> y.replace(0, 'a'), NONE);
+    Check.refused("replace", () -> Check.kept("", 0, "a"), y -> y.replace(0, 'a'), NONE);
+    Check.refused("replace", () -> Check.kept("", 4, "aaaaa"), y -> y.replace(0, 'a'), NONE);
+    Check.refused("replace", () -> Check.kept("a".repeat(120), 0, "b"), y -> y.replace(0, 'a'), NONE);
   }
 
   @Check.Sentence("5: FULL if the text would have more than 120 characters")
@@ -273,9 +273,9 @@ public final class EdgeTests {
     SlipSearch x = Check.searched("a".repeat(59) + "b", 1, "b");
     Check.due("replace to 120", x.replace(0, 'c'), 61);
     Check.dueText(x, "ca".repeat(59) + "cc");
-    Check.refused("replace to 121", () -> Check.searched("a".repeat(60), 1, "b"), y -> y.replace(0, 'c'), FULL);
-    Check.refused("replace to 121", () -> Check.searched("b" + "a".repeat(60), 1, "b"), y -> y.replace(0, 'c'), FULL);
-    Check.refused("replace to 241", () -> Check.searched("a".repeat(120), 1, "b"), y -> y.replace(0, 'c'), FULL);
+    Check.refused("replace to 121", () -> Check.kept("a".repeat(60), 1, "b"), y -> y.replace(0, 'c'), FULL);
+    Check.refused("replace to 121", () -> Check.kept("b" + "a".repeat(60), 1, "b"), y -> y.replace(0, 'c'), FULL);
+    Check.refused("replace to 241", () -> Check.kept("a".repeat(120), 1, "b"), y -> y.replace(0, 'c'), FULL);
     SlipSearch same = Check.searched("ab".repeat(60), 0, "b");
     Check.due("replace of 120 by 120", same.replace(0, 'c'), 60);
     Check.dueText(same, "ac".repeat(60));
@@ -284,9 +284,9 @@ public final class EdgeTests {
   @Check.Sentence("5: the parts; UNKNOWN; BAD_VALUE; NONE; FULL: in this order")
   static void p05ReplaceOrder() {
     Check.refused("replace(2, 'A')", Check::rich, y -> y.replace(2, 'A'), UNKNOWN);
-    Check.refused("replace(0, 'A')", () -> Check.searched("b", 0, "a"), y -> y.replace(0, 'A'), BAD_VALUE);
-    Check.refused("replace(0, ' ')", () -> Check.searched("a".repeat(120), 1, "b"), y -> y.replace(0, ' '), BAD_VALUE);
-    Check.refused("replace(1, 'a')", () -> Check.searched("a".repeat(120), 1, "b"), y -> y.replace(1, 'a'), UNKNOWN);
+    Check.refused("replace(0, 'A')", () -> Check.kept("b", 0, "a"), y -> y.replace(0, 'A'), BAD_VALUE);
+    Check.refused("replace(0, ' ')", () -> Check.kept("a".repeat(120), 1, "b"), y -> y.replace(0, ' '), BAD_VALUE);
+    Check.refused("replace(1, 'a')", () -> Check.kept("a".repeat(120), 1, "b"), y -> y.replace(1, 'a'), UNKNOWN);
   }
 
   @Check.Sentence("5: replaces the parts, and nothing else")
@@ -409,7 +409,7 @@ public final class EdgeTests {
     Check.refused("setSlips(1)", SlipSearch::new, y -> y.setSlips(1), NONE);
     for (int slips = 0; slips <= 4; slips++) {
       int same = slips;
-      Check.refused("setSlips(" + same + ")", () -> Check.searched("ab", same, "a"), y -> y.setSlips(same), NONE);
+      Check.refused("setSlips(" + same + ")", () -> Check.kept("ab", same, "a"), y -> y.setSlips(same), NONE);
     }
   }
 
@@ -565,7 +565,7 @@ public final class EdgeTests {
   @Check.Sentence("13: NONE if there is no snapshot")
   static void p13RestoreOfNothing() {
     Check.refused("restore()", SlipSearch::new, y -> y.restore(), NONE);
-    Check.refused("restore()", () -> sixPatterns("abc"), y -> y.restore(), NONE);
+    Check.refused("restore()", () -> Check.searched("ab ba", 2, "a", "^bb"), y -> y.restore(), NONE);
     SlipSearch empty = new SlipSearch();
     empty.keep();
     Check.due("restore() of an empty snapshot", empty.restore(), 0);
@@ -668,9 +668,9 @@ public final class EdgeTests {
   static void p15WithoutAnyEnd() {
     for (int what = 4; what <= 5; what++) {
       int asked = what;
-      Check.refused("pattern", () -> Check.searched("zz", 0, "z", "a"), y -> y.pattern(1, asked), NONE);
-      Check.refused("pattern", () -> Check.searched("", 4, "aaaaa"), y -> y.pattern(0, asked), NONE);
-      Check.refused("pattern", () -> Check.searched("z".repeat(120), 3, "aaaa"), y -> y.pattern(0, asked), NONE);
+      Check.refused("pattern", () -> Check.kept("zz", 0, "z", "a"), y -> y.pattern(1, asked), NONE);
+      Check.refused("pattern", () -> Check.kept("", 4, "aaaaa"), y -> y.pattern(0, asked), NONE);
+      Check.refused("pattern", () -> Check.kept("z".repeat(120), 3, "aaaa"), y -> y.pattern(0, asked), NONE);
     }
   }
 
@@ -728,7 +728,7 @@ public final class EdgeTests {
       Check.refused("takes(" + number + ", 0)", Check::rich, y -> y.takes(number, 0), UNKNOWN);
       Check.refused("takes(0, " + number + ")", Check::rich, y -> y.takes(0, number), UNKNOWN);
     }
-    Check.Making wide = () -> Check.searched("ab", 1, "a".repeat(60));
+    Check.Making wide = () -> Check.kept("ab", 1, "a".repeat(60));
     Check.due("takes(0, 59)", wide.make().takes(0, 59), 1);
     Check.refused("takes(0, 60)", wide, y -> y.takes(0, 60), UNKNOWN);
     Check.refused("takes(6, 0)", () -> sixPatterns("a"), y -> y.takes(6, 0), UNKNOWN);
@@ -772,7 +772,7 @@ public final class EdgeTests {
 
   @Check.Sentence("17: rank: from 0; NONE if there are not so many")
   static void p17RankBehindTheLast() {
-    Check.Making made = () -> Check.searched("zab", 2, "ab", "qqqqq");
+    Check.Making made = () -> Check.kept("zab", 2, "ab", "qqqqq");
     for (int rank : new int[] {4, 5, 120, 121, MOST}) {
       for (int what = 0; what < 3; what++) {
         int asked = what;
@@ -784,7 +784,7 @@ public final class EdgeTests {
     }
     Check.refused("end(1, 0, false)", made, y -> y.end(1, 0, false, 0), NONE);
     Check.refused("end(1, 0, true)", made, y -> y.end(1, 0, true, 2), NONE);
-    Check.Making full = () -> Check.searched("a".repeat(120), 1, "b");
+    Check.Making full = () -> Check.kept("a".repeat(120), 1, "b");
     Check.due("end(0, 120, false, 0)", full.make().end(0, 120, false, 0), 120);
     Check.due("end(0, 120, true, 2)", full.make().end(0, 120, true, 2), 120);
     Check.refused("end(0, 121, false, 0)", full, y -> y.end(0, 121, false, 0), NONE);
@@ -820,7 +820,7 @@ public final class EdgeTests {
   static void p18SlipsOfColumns() {
     for (int most = 0; most <= 4; most++) {
       int now = most;
-      Check.Making made = () -> Check.searched("zb", now, "abcde");
+      Check.Making made = () -> Check.kept("zb", now, "abcde");
       for (int slips = 0; slips <= now; slips++) {
         Check.due("column(0, " + slips + ", 0)", made.make().column(0, slips, 0), (1L << slips) - 1);
       }
@@ -915,7 +915,7 @@ public final class EdgeTests {
 
   @Check.Sentence("19: from: the beginning of the part; to: its end, from the beginning to the length of the text; BAD_VALUE")
   static void p19PartsOfTheText() {
-    Check.Making made = () -> Check.searched("abcd", 1, "bc");
+    Check.Making made = () -> Check.kept("abcd", 1, "bc");
     Check.dueWay(made.make(), 0, 4, 2, 2, 0, 0);
     Check.dueWay(made.make(), 1, 3, 0, 0, 0, 0);
     Check.dueWay(made.make(), 1, 4, 1, 1, 0, 0);
@@ -928,7 +928,7 @@ public final class EdgeTests {
         Check.refused("slips(0, " + part[0] + ", " + part[1] + ")", made, y -> y.slips(0, part[0], part[1], asked), BAD_VALUE);
       }
     }
-    Check.refused("slips(0, 0, 1, 0)", () -> Check.searched("", 1, "a"), y -> y.slips(0, 0, 1, 0), BAD_VALUE);
+    Check.refused("slips(0, 0, 1, 0)", () -> Check.kept("", 1, "a"), y -> y.slips(0, 0, 1, 0), BAD_VALUE);
     Check.refused("slips(0, 120, 121, 0)", () -> Check.rich(120), y -> y.slips(0, 120, 121, 0), BAD_VALUE);
   }
 

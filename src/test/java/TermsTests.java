@@ -60,7 +60,7 @@ public final class TermsTests {
   }
 
   private static SlipSearch sixPatterns() {
-    SlipSearch x = Check.searched("ab ba", 2, "a", "^b", "..", "[ab]", "[-ab]", "_");
+    SlipSearch x = Check.kept("ab ba", 2, "a", "^b", "..", "[ab]", "[-ab]", "_");
     Check.type(x, "xyz");
     return x;
   }
@@ -649,7 +649,7 @@ public final class TermsTests {
 
   @Check.Sentence("NONE is no error; it is returned only if no error applies")
   static void noneBehindAllErrors() {
-    Check.Making none = () -> Check.searched("xyz", 0, "ab", "x");
+    Check.Making none = () -> Check.kept("xyz", 0, "ab", "x");
     Check.refused("replace by A without an end", none, x -> x.replace(0, 'A'), BAD_VALUE);
     Check.refused("replace without an end", none, x -> x.replace(0, 'a'), NONE);
     Check.refused("end of a wrong what without an end", none, x -> x.end(0, 0, false, 3), BAD_VALUE);
