@@ -299,6 +299,17 @@ public final class EdgeTests {
     Check.due("restore()", x.restore(), 5);
   }
 
+  @Check.Sentence("5: replaces the parts, and nothing else: in a text of 120 characters, its last one too")
+  static void p05ReplaceInAFullText() {
+    SlipSearch x = Check.searched("a" + "b".repeat(118) + "c", 0, "a", "c", "b");
+    Check.due("replace(0, z)", x.replace(0, 'z'), 1);
+    Check.dueText(x, "z" + "b".repeat(118) + "c");
+    Check.due("replace(1, y)", x.replace(1, 'y'), 1);
+    Check.dueText(x, "z" + "b".repeat(118) + "y");
+    Check.due("replace(2, x)", x.replace(2, 'x'), 118);
+    Check.dueText(x, "z" + "x".repeat(118) + "y");
+  }
+
   // ---- promise 6: addPattern
 
   @Check.Sentence("6: Adds the pattern of the pad, which stays; returns its number")

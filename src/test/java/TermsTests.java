@@ -601,6 +601,49 @@ public final class TermsTests {
     Check.dueSame("the state after restore() again", Check.state(x), kept);
   }
 
+  /** A state that has no room left: the first and the last character and pattern are of their own. */
+  private static SlipSearch fullest() {
+    return Check.searched("x" + "ab".repeat(59) + "y", 4, "x", "b", "b", "b", "b", "^y[-cd].");
+  }
+
+  /** Changes the first and the last character and pattern. */
+  private static void changeFullest(SlipSearch x) {
+    x.cut(120);
+    for (int part = 0; part < 2; part++) {
+      Check.type(x, "q".repeat(60));
+      x.writePad();
+    }
+    x.removePattern(5);
+    x.removePattern(0);
+    Check.add(x, "_");
+    Check.add(x, "z");
+  }
+
+  @Check.Sentence("A state is everything but the pad, the history and the snapshot: of 120 characters and 6 patterns (undo)")
+  static void undoBringsBackTheFullestState() {
+    SlipSearch x = fullest();
+    String before = Check.state(x);
+    x.cut(1);
+    x.write('q');
+    x.removePattern(5);
+    Check.add(x, "q");
+    for (int left = 3; left >= 0; left--) Check.due("undo()", x.undo(), left);
+    Check.dueSame("the state after undo()", Check.state(x), before);
+  }
+
+  @Check.Sentence("A state is everything but the pad, the history and the snapshot: of 120 characters and 6 patterns (restore)")
+  static void restoreBringsBackTheFullestState() {
+    SlipSearch x = fullest();
+    String kept = Check.state(x);
+    x.keep();
+    changeFullest(x);
+    String before = Check.state(x);
+    Check.due("restore()", x.restore(), 120);
+    Check.dueSame("the state after restore()", Check.state(x), kept);
+    x.undo();
+    Check.dueSame("the state after undo() of restore()", Check.state(x), before);
+  }
+
   // ---- errors
 
   @Check.Sentence("UNKNOWN = -1, BAD_VALUE = -2, FULL = -3, NOT_POSSIBLE = -4, NONE = -5")
